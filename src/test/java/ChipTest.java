@@ -90,10 +90,24 @@ public final class ChipTest {
         DUE.is("8 99", y.of(0, 1), 199);
         y.chip(0, 0, 1);
         DUE.is("8 100 is above", y.take(), -3);
+        everySpotAbove();
         MinorTables z = Due.table(2, 5, 6, 7, 8);
         DUE.is("8 no chips", z.take(), 1);
         DUE.is("8 no chips: 1", z.of(0, 0), 101);
         DUE.is("8 no chips: 0", z.of(0, 1), 100);
+    }
+
+    /** One number of the product alone is above 99, wherever it stands. */
+    private static void everySpotAbove() {
+        int[][] steps = {{1, 0}, {1, 1}, {1, 2}, {0, 0}, {0, 1}, {0, 2}, {2, 0}, {2, 1}, {2, 2}, {2, 3}};
+        for (int[] step : steps) {
+            MinorTables x = new MinorTables();
+            x.size(4);
+            for (int k = 0; k < (step[0] == 2 ? 3 : 12); k++) {
+                x.chip(step[0], step[1], 9);
+            }
+            DUE.is("8 above 99", x.take(), -3);
+        }
     }
 
     private static void chipOf() {

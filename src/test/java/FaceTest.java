@@ -60,7 +60,14 @@ public final class FaceTest {
             boolean told = Set.of("NONE", "BAD", "STATE", "FULL", "NO").contains(f.getName());
             DUE.holds(f + "", told ? Modifier.isPublic(f.getModifiers()) : Modifier.isPrivate(f.getModifiers()));
         }
-        for (Method m : MinorTables.class.getDeclaredMethods()) {
+        bearNoPublicName(MinorTables.class, names);
+        for (Class<?> inside : MinorTables.class.getDeclaredClasses()) {
+            bearNoPublicName(inside, names);
+        }
+    }
+
+    private static void bearNoPublicName(Class<?> c, Set<String> names) {
+        for (Method m : c.getDeclaredMethods()) {
             DUE.holds(m + " bears no public name", Modifier.isPublic(m.getModifiers()) || !names.contains(m.getName()));
         }
     }

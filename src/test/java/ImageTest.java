@@ -30,6 +30,7 @@ public final class ImageTest {
     private static void fill(MinorTables x) {
         x.chip(0, 0, 5);
         x.chip(2, 1, 6);
+        x.vector(0, -2);
         x.vector(1, -4);
         x.minor(3, 3);
         x.minor(1, 2);
@@ -44,6 +45,7 @@ public final class ImageTest {
         x.size(4);
         x.set(33, 9);
         x.chip(1, 2, 2);
+        x.vector(0, 1);
         x.vector(3, 9);
         x.minor(15, 15);
         x.see(-1, 0, 0);
@@ -67,6 +69,7 @@ public final class ImageTest {
         DUE.is("35 a chip's kind", x.chipOf(1, 0), 2);
         DUE.is("35 a chip's i", x.chipOf(1, 1), 1);
         DUE.is("35 a chip's v", x.chipOf(1, 2), 6);
+        DUE.is("35 vector", x.of(1, 0), 98);
         DUE.is("35 vector", x.of(1, 1), 96);
         DUE.is("35 vector", x.told(6), 0);
         DUE.is("35 how many noted", x.told(5), 2);

@@ -276,6 +276,7 @@ public final class MinorTest {
         may(z, 22, 94, 106, 199);
         may(z, 2, 1, 101, 101);
         may(z, 11, 1, 102, 102);
+        may(Due.table(2, -3, 1, 1, 1), 11, 0, -5, -5);
         z.minor(1, 1);
         z.may(0, 0);
         DUE.is("21 NOTED stays", z.told(5), 1);
