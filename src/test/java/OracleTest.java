@@ -4,8 +4,10 @@ import java.util.Random;
 
 /** Random runs of calls on the program and on the plain model: all answers are alike. */
 public final class OracleTest {
-    private static final int RUNS = Integer.getInteger("runs", 150);
+    private static final int RUNS = Integer.getInteger("runs", 250);
     private static final int CALLS = 512;
+    // A text of 100 signs, 101 more and read(): no step asks for more calls.
+    private static final int MOST_AT_ONCE = 210;
     private static final int[] FAR = {Integer.MIN_VALUE, Integer.MAX_VALUE, -1, -2, 5, 60, 61, 99, 100, 128, 1 << 30};
 
     private final Random random;
@@ -31,7 +33,7 @@ public final class OracleTest {
     }
 
     private void go() {
-        while (left > 0) {
+        while (left >= MOST_AT_ONCE) {
             int which = random.nextInt(100);
             if (which < 4) {
                 feedAndRead();
@@ -59,12 +61,12 @@ public final class OracleTest {
     }
 
     private int spot() {
-        int n = program.told(0);
+        int n = model.told(0);
         return below(12) == 0 ? about(0, 34) : 10 * below(n) + below(n);
     }
 
     private int[] minor() {
-        int n = program.told(0);
+        int n = model.told(0);
         int rows = about(1, (1 << n) - 1);
         int columns = about(1, (1 << n) - 1);
         for (int t = 0; t < 20 && Integer.bitCount(rows) != Integer.bitCount(columns) && below(25) != 0; t++) {
@@ -110,7 +112,7 @@ public final class OracleTest {
     }
 
     private String clause(char letter) {
-        int n = program.told(0);
+        int n = model.told(0);
         String number = "" + (below(3) == 0 ? about(-99, 99) % 100 : below(10));
         switch (letter) {
             case 'n': return "n" + (below(8) == 0 ? below(10) : 2 + below(3));
@@ -125,7 +127,7 @@ public final class OracleTest {
 
     /** Chips of all falls, scales and rises, and take(): mostly a table all whose minors are above 0. */
     private void makePositive() {
-        int n = below(3) == 0 ? 2 + below(3) : program.told(0);
+        int n = below(3) == 0 ? 2 + below(3) : model.told(0);
         same("size", program.size(n), model.size(n));
         for (int j = 0; j < n - 1; j++) {
             for (int i = n - 2; i >= j; i--) {
@@ -153,13 +155,13 @@ public final class OracleTest {
 
     /** A tape of shorts that tells the table, but for one number perhaps. */
     private void tellTape() {
-        int n = program.told(0);
+        int n = model.told(0);
         int start = below(3);
         int many = start + n * n + below(3) - 1;
         int tape = below(6);
         same("tape", program.tape(tape, 1, many), model.tape(tape, 1, many));
         for (int p = 0; p < n * n; p++) {
-            int v = program.of(0, 10 * (p / n) + p % n) - 100 + (below(20) == 0 ? 1 : 0);
+            int v = model.of(0, 10 * (p / n) + p % n) - 100 + (below(20) == 0 ? 1 : 0);
             same("item", program.item(tape, start + p, v), model.item(tape, start + p, v));
         }
         same("judge", program.judge(tape, start), model.judge(tape, start));
@@ -257,7 +259,7 @@ public final class OracleTest {
 
     private void book(int s) {
         int spot = below(12) == 0 ? -1 : s;
-        int v = below(3) == 0 ? about(-99, 99) : program.of(0, s) - 100;
+        int v = below(3) == 0 ? about(-99, 99) : model.of(0, s) - 100;
         same("book " + spot + " " + v, program.book(spot, v), model.book(spot, v));
     }
 
