@@ -3,12 +3,31 @@ final class Due {
     static final long NO = Long.MIN_VALUE;
     static final int LEAST = Integer.MIN_VALUE, MOST = Integer.MAX_VALUE;
 
+    private static final long PATIENCE = 1000L * Integer.getInteger("patience", 300);
+
     private final String test;
     private int asked;
     private int wrong;
 
+    static {
+        Thread watch = new Thread(Due::endWhatHangs);
+        watch.setDaemon(true);
+        watch.start();
+    }
+
     Due(String test) {
         this.test = test;
+    }
+
+    /** A call that doesn't end is wrong too. */
+    private static void endWhatHangs() {
+        try {
+            Thread.sleep(PATIENCE);
+            System.out.println("a call doesn't end");
+            Runtime.getRuntime().halt(1);
+        } catch (InterruptedException e) {
+            Thread.currentThread().interrupt();
+        }
     }
 
     void is(String what, long got, long want) {
@@ -97,6 +116,6 @@ final class Due {
         int all = beyond - 1;
         return new int[][] {{0, 0}, {1, 0}, {0, 1}, {1, 3}, {3, 1}, {all, 1}, {2, all}, {beyond, 1}, {1, beyond},
             {beyond, beyond}, {beyond + 1, 3}, {3, beyond + 1}, {-1, -1}, {-1, all}, {all, -1}, {-2, 1}, {LEAST, 1},
-            {1, LEAST}, {LEAST, LEAST}, {MOST, MOST}};
+            {1, LEAST}, {LEAST, LEAST}, {MOST, MOST}, {33, 3}, {3, 33}, {1 << 30, 1}};
     }
 }

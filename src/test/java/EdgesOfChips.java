@@ -172,6 +172,10 @@ final class EdgesOfChips {
                 due.is("below the middle", hundredAndEight(n, FALL, i).take(), -3);
             }
         }
+        due.is("row 0, column 2", Due.chips(4, RISE, 0, 9, RISE, 0, 9, RISE, 1, 9).take(), -3);
+        due.is("row 1, column 3", Due.chips(4, RISE, 1, 9, RISE, 1, 9, RISE, 2, 9).take(), -3);
+        due.is("row 2, column 0", Due.chips(4, FALL, 1, 9, FALL, 1, 9, FALL, 0, 9).take(), -3);
+        due.is("row 3, column 1", Due.chips(4, FALL, 2, 9, FALL, 2, 9, FALL, 1, 9).take(), -3);
         due.is("in the corner", Due.chips(4, RISE, 0, 9, RISE, 1, 9, RISE, 2, 2).take(), -3);
         due.is("in the other corner", Due.chips(4, FALL, 2, 9, FALL, 1, 9, FALL, 0, 2).take(), -3);
     }

@@ -108,6 +108,14 @@ final class EdgesOfTapes {
         due.is("nothing held any more", x.judge(0, 0), 100);
     }
 
+    @Sentence(promise = 33, words = "the first that a call's words name.")
+    static void judgeNamesItsRefusalsInOrder(Due due) {
+        MinorTables x = held(new MinorTables(), 0, INTS, 1, 0);
+        due.is("no tape, no place", x.judge(6, -1), -1);
+        due.is("another sort, place below 0", x.judge(0, -1), -12);
+        due.is("another sort, place beyond", x.judge(0, 3), -12);
+    }
+
     @Sentence(promise = 33, words = "what is asked changes nothing")
     static void judgeChangesNothing(Due due) {
         Look.staysBy(due, Look.full(), x -> x.judge(0, 0), x -> x.judge(0, 1), x -> x.judge(1, 0), x -> x.judge(4, 0));

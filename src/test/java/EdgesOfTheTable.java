@@ -165,6 +165,21 @@ final class EdgesOfTheTable {
         }
     }
 
+    @Sentence(promise = 2, words = "There are n rows and columns")
+    static void sizeLeavesTheTextTheTapesAndTheImage(Due due) {
+        MinorTables x = new MinorTables();
+        x.feed('f');
+        x.tape(0, 3, 1);
+        x.item(0, 0, 7);
+        x.chip(0, 0, 1);
+        x.image();
+        x.size(2);
+        due.is("count(3)", x.count(3), 1);
+        due.is("peek(0, 0)", x.peek(0, 0), 7);
+        due.is("undo()", x.undo(), 1);
+        due.is("n", x.told(0), 3);
+    }
+
     @Sentence(promise = 2, words = "since THE TABLE was last told anything (size(), set(), turn(), flip(), take(), a text that did"
         + " so; also if no number changed by it)")
     static void sizeForgetsNotedThoughNoNumberChanged(Due due) {

@@ -11,6 +11,7 @@ import java.util.List;
  * promises and of the terms.
  */
 public final class SentencesTest {
+    private static final int PROMISES = 40;
     private static final Class<?>[] GROUPS = {EdgesOfTheTable.class, EdgesOfChips.class, EdgesOfTexts.class,
         EdgesOfMinors.class, EdgesOfSeen.class, EdgesOfEvents.class, EdgesOfTheImage.class, EdgesOfTapes.class};
 
@@ -19,10 +20,15 @@ public final class SentencesTest {
         // Where the document isn't at hand the tests run all the same; only their quotes can't be looked up.
         Document document = Files.exists(file) ? Document.read(file) : null;
         Due all = new Due("SentencesTest");
+        int[] tests = new int[PROMISES + 1];
         for (Class<?> group : GROUPS) {
             for (Method test : testsOf(group)) {
-                run(test, document, all);
+                tests[run(test, document, all)]++;
             }
+        }
+        for (int promise = 1; promise <= PROMISES; promise++) {
+            System.out.println("promise " + promise + ": " + tests[promise] + " tests of sentences");
+            all.holds("promise " + promise + " has tests", tests[promise] > 0);
         }
         if (document == null) {
             System.out.println("SentencesTest: no document at " + file);
@@ -49,13 +55,14 @@ public final class SentencesTest {
         return tests;
     }
 
-    private static void run(Method test, Document document, Due all) throws Exception {
+    /** Runs a test: the promise that it is of, 0 if it names none. */
+    private static int run(Method test, Document document, Due all) throws Exception {
         Sentence sentence = test.getAnnotation(Sentence.class);
-        if (sentence == null) {
-            all.holds(test + " has no sentence", false);
-            return;
+        int promise = sentence == null ? 0 : sentence.promise();
+        all.holds(test + " names a promise", promise >= 1 && promise <= PROMISES);
+        if (promise < 1 || promise > PROMISES) {
+            return 0;
         }
-        int promise = sentence.promise();
         String name = "promise " + promise + ", " + test.getName() + ", \"" + String.join("\", \"", sentence.words()) + "\"";
         for (String words : sentence.words()) {
             all.holds(name + " quotes what is there: " + words, document == null || document.quote(promise, words));
@@ -63,5 +70,6 @@ public final class SentencesTest {
         Due due = new Due(name);
         test.invoke(null, due);
         all.holds(name + " holds", due.allRight());
+        return promise;
     }
 }
