@@ -4,7 +4,9 @@ import java.lang.reflect.Method;
 import java.lang.reflect.Modifier;
 import java.nio.file.Files;
 import java.nio.file.Path;
+import java.util.ArrayList;
 import java.util.Arrays;
+import java.util.List;
 import java.util.Set;
 import java.util.TreeSet;
 import java.util.regex.Matcher;
@@ -27,7 +29,14 @@ public final class FaceTest {
         constants();
         members();
         insideClasses();
-        source(Files.readString(Path.of(System.getProperty("source"))));
+        String program = Files.readString(Path.of(System.getProperty("source")));
+        source(program);
+        Path document = Path.of(System.getProperty("document"));
+        if (Files.exists(document)) {
+            faceOfTheDocument(Files.readString(document), program);
+        } else {
+            System.out.println("FaceTest: no document at " + document);
+        }
         DUE.end();
     }
 
@@ -97,6 +106,55 @@ public final class FaceTest {
         }
     }
 
+    /** "The public face": its lines stand in the program as they are told, and in their order. */
+    private static void faceOfTheDocument(String document, String program) {
+        int heading = document.indexOf("## The public face");
+        int start = document.indexOf("```java", heading);
+        String face = document.substring(start, document.indexOf("```", start + 3));
+        List<String> lines = all("(?m)^ *(public [^;{]*[^;{ ])", face);
+        DUE.is("the class, two lines of constants, the constructor and the methods", lines.size(), 43);
+        DUE.alike("the face", String.join("\n", all("(?m)^ *(public [^;{]*[^;{ ])", program)), String.join("\n", lines));
+        callsStandWhereTheInterfaceSays(document, program);
+    }
+
+    /** "Ahead of the calls .. the interface says": the program says so too. */
+    private static void callsStandWhereTheInterfaceSays(String document, String program) {
+        Matcher m = Pattern.compile("(?m)^Ahead of the calls (.*) the interface says: (---- .*)\\.$").matcher(document);
+        int groups = 0;
+        while (m.find()) {
+            groups++;
+            int start = program.indexOf("    // " + m.group(2) + "\n");
+            DUE.holds("the program says " + m.group(2), start >= 0);
+            int end = program.indexOf("    // ---- ", start + 1);
+            String calls = start >= 0 && end > start ? program.substring(start, end) : "";
+            String due = m.group(1).replaceAll("[`,]", "");
+            DUE.alike(m.group(2), String.join(" ", all("(?m)^    public \\w+ (\\w+)\\(", calls)), due);
+        }
+        DUE.is("groups of calls", groups, 7);
+    }
+
+    private static List<String> all(String pattern, String text) {
+        List<String> found = new ArrayList<>();
+        Matcher m = Pattern.compile(pattern).matcher(text);
+        while (m.find()) {
+            found.add(m.group(1));
+        }
+        return found;
+    }
+
+    /** All is made with the object: by fields, or by the constructors, which stand without a type ahead. */
+    private static void callsMakeNothing(String code) {
+        boolean inConstructor = false;
+        for (String line : code.split("\n")) {
+            if (line.matches(" +(private |public )?[A-Za-z].*\\(.*\\) \\{") && !line.matches(" +(if|for|while|switch).*")) {
+                inConstructor = line.matches(" +(public )?[A-Z]\\w*\\(.*");
+            }
+            boolean isField = line.matches(" +(private )?final [\\w\\[\\]]+ \\w+ = new .*;");
+            DUE.holds("nothing is made by a call: " + line, !line.matches(".*\\bnew\\b.*") || isField || inConstructor);
+        }
+        DUE.holds("no copy is made by a call", !code.contains("clone(") && !code.contains("copyOf"));
+    }
+
     private static void source(String whole) {
         String code = whole.replaceAll("(?s)/\\*.*?\\*/", "").replaceAll("//[^\n]*", "");
         String[] banned = {"throw", "throws", "try", "catch", "finally", "synchronized", "assert", "Exact", "->", "::",
@@ -107,6 +165,7 @@ public final class FaceTest {
             DUE.holds("no " + word, !m.find());
         }
         methodsAreShort(code);
+        callsMakeNothing(code);
     }
 
     private static void methodsAreShort(String code) {
